@@ -1,7 +1,9 @@
 import java.util.ArrayList;
 import java.util.Comparator;
+import java.util.HashMap;
 import java.util.HashSet;
 import java.util.List;
+import java.util.Map;
 import java.util.Set;
 
 /**
@@ -56,6 +58,8 @@ final class Model {
     private final int[] overLatest = new int[9];
     private final int[] earned = new int[9];
     private final List<Slice> slices = new ArrayList<>();
+    /** PLACES that were gathered since the latest LINE came. */
+    private final Map<Slice, List<Place>> known = new HashMap<>();
     private final int[][] sheets = new int[4][];
     private final int[] bitsOf = new int[4];
     private int found, tries, tick, lentLast = -1, passed, paid;
@@ -97,6 +101,7 @@ final class Model {
         if (lines.size() == 9) return finding(FULL);
         lines.add(new Line(a, b, room, late, price));
         ups.add(true);
+        known.clear();
         return lines.size() - 1;
     }
 
@@ -266,6 +271,10 @@ final class Model {
     }
 
     private List<Place> placesOf(Slice s) {
+        return new ArrayList<>(known.computeIfAbsent(s, this::gatherPlaces));
+    }
+
+    private List<Place> gatherPlaces(Slice s) {
         List<List<Integer>> ways = allWays(s.a, s.b);
         ways.removeIf(w -> lateness(w) > s.bound);
         List<Place> all = new ArrayList<>();
