@@ -40,19 +40,29 @@ public final class SliceSeller {
     /** The kind that each kind is under; -1: none. */
     private static final int[] ABOVE = {-1, PLAIN, PLAIN, ELASTIC, PLAIN};
 
-    private final Net net = new Net();
-    private final Slices slices = new Slices();
-    private final Book book = new Book();
-    private final Cut leastCut = new Cut();
-    private final Layer layer = new Layer(net, slices);
-    private final Day day = new Day(net, slices);
-    private final Sheet[] sheets = new Sheet[MOST_SHEETS];
+    private final Net net;
+    private final Slices slices;
+    private final Book book;
+    private final Cut leastCut;
+    private final Layer layer;
+    private final Day day;
+    private final Sheet[] sheets;
     private int findings;
 
     public SliceSeller() {
+        Net newNet = new Net();
+        Slices newSlices = new Slices();
+        net = newNet;
+        slices = newSlices;
+        book = new Book();
+        leastCut = new Cut();
+        layer = new Layer(newNet, newSlices);
+        day = new Day(newNet, newSlices);
+        Sheet[] row = new Sheet[MOST_SHEETS];
         for (int s = 0; s < MOST_SHEETS; s++) {
-            sheets[s] = new Sheet();
+            row[s] = new Sheet();
         }
+        sheets = row;
     }
 
     // ---- the net

@@ -185,6 +185,18 @@ public final class LayTest {
         x.out(3);
         x.span(3, 10, 12, 0);
         DUE.is("25: TICK 12 is not", x.lay(15), NONE);
+        DUE.is("25: and out again", x.lay(0), 3);
+        // The spans of an earlier call do not count any more.
+        for (int i = 0; i < 4; i++) {
+            x.span(i, 6 * i, 6 * i + 5, 63);
+        }
+        DUE.is("25: four spans one behind the other", x.lay(15), 0);
+        x.lay(0);
+        x.span(1, 0, 0, 63);
+        DUE.is("25: two at TICK 0", x.can(3), 0);
+        x.span(1, 23, 23, 63);
+        DUE.is("25: two at TICK 23", x.can(10), 0);
+        DUE.is("25: not these", x.can(3), 1);
     }
 
     private static void promise25LayShares() {

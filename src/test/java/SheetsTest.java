@@ -49,6 +49,9 @@ public final class SheetsTest {
         DUE.is("32: number 7 is gone", x.write(3, 7, 5), BEYOND);
         DUE.is("32: longer", x.sheet(3, 16, 8), 8);
         DUE.is("32: number 7 is 0", x.write(3, 7, 5), 0);
+        x.write(3, 0, 5);
+        x.sheet(3, 16, 1);
+        DUE.is("32: number 0 is 0", x.write(3, 0, 5), 0);
     }
 
     private static void promise32Missing() {
@@ -214,6 +217,11 @@ public final class SheetsTest {
         x.write(0, 1, -1);
         x.write(0, 2, 0);
         DUE.is("35: none more", x.read(0), 0);
+        x.write(0, 0, 1);
+        DUE.is("35: SLICE 0 would have 1001", x.read(0), FULL);
+        x.write(0, 0, 101);
+        DUE.is("35: number 0 is 101", x.read(0), BEYOND);
+        x.write(0, 0, 0);
         x.write(0, 2, 1);
         DUE.is("35: one more", x.read(0), FULL);
     }

@@ -30,7 +30,9 @@ public final class SlicesTest {
         promise22Work();
         promise23Spare();
         promise24Took();
+        promise21FallOfLine0();
         placesStayWhenLinesCome();
+        allThereCanBe();
         DUE.end();
     }
 
@@ -307,6 +309,14 @@ public final class SlicesTest {
         DUE.is("16: why(-1)", x.why(-1), BEYOND);
         DUE.is("16: why(4)", x.why(4), BEYOND);
         DUE.is("16: told(5)", x.told(5), 4);
+        // The first of its PLACES is the only one that will do.
+        SliceSeller w = new SliceSeller();
+        w.node(5);
+        w.node(4);
+        w.line(0, 1, 1, 1, 0);
+        w.slice(0, 0, 1, 1, 1);
+        w.terms(0, 0, 5, 0);
+        DUE.is("16: the first PLACE alone", w.why(0), 0);
         // One PLACE has room and no work, another one work and no room: 4.
         SliceSeller y = new SliceSeller();
         y.node(0);
@@ -463,6 +473,21 @@ public final class SlicesTest {
         DUE.is("21: 3 alone", x.fallRoom(2, 0), 3);
     }
 
+    private static void promise21FallOfLine0() {
+        // Two SURE SLICES on LINE 0 of ROOM 20, whose SPARE has room for one of them only.
+        SliceSeller x = new SliceSeller();
+        x.node(9);
+        x.node(9);
+        x.line(0, 1, 20, 1, 0);
+        x.line(0, 1, 10, 2, 0);
+        x.slice(1, 0, 1, 6, 2);
+        x.slice(1, 0, 1, 6, 2);
+        x.letIn(0);
+        DUE.is("21: both would come to LINE 1", x.why(1), 3);
+        DUE.is("21: can(3)", x.can(3), 0);
+        DUE.is("21: fallRoom(1)", x.fallRoom(1, 0), 6);
+    }
+
     private static void promise22Work() {
         SliceSeller x = pair(1, 30, 20);
         for (int i = 0; i < 4; i++) {
@@ -502,6 +527,10 @@ public final class SlicesTest {
         x.out(1);
         x.letIn(0);
         DUE.is("23: the last TICK", x.spare(0), 8);
+        x.out(0);
+        x.span(0, 0, 0, 0);
+        x.letIn(0);
+        DUE.is("23: the first TICK", x.spare(0), 8);
         x.up(0, false);
         DUE.is("23: whatever is DOWN", x.spare(0), 8);
         DUE.is("23: line 4", x.spare(4), BEYOND);
@@ -534,6 +563,39 @@ public final class SlicesTest {
         DUE.is("24: nothing changed", x.about(2, 5), 1);
         DUE.is("24: line 4", x.took(4), BEYOND);
         DUE.is("24: line -2", x.took(-2), BEYOND);
+    }
+
+    /** Nothing is out of bounds with 6 NODES, 9 LINES and 8 SLICES. */
+    private static void allThereCanBe() {
+        SliceSeller x = new SliceSeller();
+        for (int i = 0; i < 6; i++) {
+            x.node(100);
+        }
+        for (int i = 0; i < 9; i++) {
+            x.line(i % 6, (i + 1 + i / 6) % 6, 50, 1, 1);
+        }
+        for (int i = 0; i < 8; i++) {
+            x.slice(i % 4, i % 6, (i + 3) % 6, 3, 99);
+            x.terms(i, 1, 2, 1);
+            DUE.is("all: why", x.why(i), 0);
+            DUE.holds("all: letIn", x.letIn(i) >= 0);
+            x.offer(i, 100);
+        }
+        DUE.is("all: lay", x.lay(255) < 9 ? 1 : 0, 1);
+        DUE.is("all: can", x.can(255), 1);
+        DUE.is("all: best", x.best(), 255);
+        DUE.is("all: told(3)", x.told(3), 8);
+        for (int l = 0; l < 9; l++) {
+            DUE.holds("all: spare", x.spare(l) >= 0);
+            DUE.holds("all: took", x.took(l) >= 0);
+        }
+        DUE.holds("all: run", x.run(24) > 0);
+        DUE.holds("all: flow", x.flow(5, 0, 23) > 0);
+        DUE.holds("all: cut", x.cut(5, 0, 23) > 0);
+        x.sheet(3, 32, 8);
+        x.write(3, 7, 1);
+        DUE.is("all: read", x.read(3), 1);
+        DUE.is("all: told(5)", x.told(5), 0);
     }
 
     private static void placesStayWhenLinesCome() {
