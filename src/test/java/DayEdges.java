@@ -189,6 +189,7 @@ final class DayEdges {
         e.is("4 by the SPARE, and 3", x.run(1), 7);
         e.is("LINE 1", x.about(1, 7), 7);
         e.is("LINE 2", x.about(2, 7), 4);
+        dueNarrowest();
         // Falls that were never to meet meet: the lower number goes first, whoever came IN first.
         SliceSeller y = Nets.pair(3, 10);
         y.slice(1, 0, 1, 8, 3);
@@ -207,6 +208,31 @@ final class DayEdges {
         y.run(1);
         e.is("SLICE 0", y.of(0, 16), 8);
         e.is("SLICE 1", y.of(1, 16), 2);
+    }
+
+    private void dueNarrowest() {
+        // Both fall on the SPARE 0-2-1, LINES 2 and 3, of which the one or the other is the narrower.
+        int[][] rooms = {{10, 9, 1}, {9, 10, 1}, {10, 10, 2}, {8, 10, 0}};
+        for (int[] r : rooms) {
+            SliceSeller x = Nets.nodes(3, 0);
+            x.line(0, 1, 8, 1, 0);
+            x.line(0, 1, 8, 1, 0);
+            x.line(0, 2, r[0], 1, 0);
+            x.line(2, 1, r[1], 1, 0);
+            for (int i = 0; i < 2; i++) {
+                x.slice(1, 0, 1, 8, 2);
+                x.up(1 - i, false);
+                x.letIn(i);
+                x.up(1 - i, true);
+                x.offer(i, 50);
+            }
+            e.is("SPARE of both", x.wayOf(0, true, 1) + x.wayOf(1, true, 1), 6);
+            x.up(0, false);
+            x.up(1, false);
+            x.run(1);
+            e.is("ROOMS " + r[0] + " and " + r[1] + ", SLICE 0", x.of(0, 16), 8);
+            e.is("ROOMS " + r[0] + " and " + r[1] + ", SLICE 1", x.of(1, 16), r[2]);
+        }
     }
 
     private void termsLent() {

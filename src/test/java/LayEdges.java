@@ -56,6 +56,23 @@ final class LayEdges {
         e.is("tries()", x.tries(), 4 * (1 + 4 + 2 * 4));
         duePassedBackTwice();
         dueFirstPlaceAgain();
+        dueAtEachTick();
+    }
+
+    private void dueAtEachTick() {
+        SliceSeller x = Nets.pair(1, 5);
+        x.slice(0, 0, 1, 5, 1);
+        x.slice(0, 0, 1, 5, 1);
+        for (int t = 0; t < 24; t++) {
+            int next = (t + 1) % 24;
+            x.span(0, t, t, 0);
+            x.span(1, t, t, 0);
+            e.is("both at TICK " + t, x.can(3), 0);
+            x.span(1, next, next, 0);
+            e.is("one at TICK " + t + ", one at the next", x.can(3), 1);
+            x.span(1, 0, 23, 0);
+            e.is("one at TICK " + t + ", one at all", x.can(3), 0);
+        }
     }
 
     private void duePassedBackTwice() {
@@ -350,6 +367,24 @@ final class LayEdges {
         e.is("the least with SLICE 7", x.best(), 128);
         dueLeastOfLikeOnes();
         dueOrderOfSums();
+        dueWithPriceNone();
+    }
+
+    private void dueWithPriceNone() {
+        // SLICE 1 of PRICE 5 never fits: tried alone, then with SLICE 0 of PRICE 0, then comes the empty set.
+        SliceSeller x = Nets.pair(1, 5);
+        x.slice(0, 0, 1, 1, 1);
+        x.slice(0, 0, 1, 6, 1);
+        x.terms(1, 0, 0, 5);
+        e.is("best()", x.best(), 0);
+        e.is("2 alone; with either PLACE of SLICE 0, 2 more", x.tries(), 2 + 2 * (1 + 2));
+        // The other way round: alone, then with SLICE 1.
+        SliceSeller y = Nets.pair(1, 5);
+        y.slice(0, 0, 1, 6, 1);
+        y.slice(0, 0, 1, 1, 1);
+        y.terms(0, 0, 0, 5);
+        e.is("best()", y.best(), 0);
+        e.is("2 alone; 2 ahead of SLICE 1", y.tries(), 2 + 2);
     }
 
     private void dueLeastOfLikeOnes() {

@@ -217,6 +217,16 @@ final class PlaceEdges {
         y.slice(0, 0, 1, 2, 9);
         y.terms(0, 0, 1, 0);
         e.is("ROOM where no WORKROOM is", y.why(0), 4);
+        // The first of its PLACES alone will do.
+        SliceSeller w = new SliceSeller();
+        w.node(1);
+        w.node(0);
+        w.line(0, 1, 2, 1, 0);
+        w.line(0, 1, 1, 1, 0);
+        w.slice(0, 0, 1, 2, 9);
+        w.terms(0, 0, 1, 0);
+        e.is("the first PLACE alone", w.why(0), 0);
+        e.is("it is", w.letIn(0), 0);
         // The last of its PLACES alone will do.
         SliceSeller z = new SliceSeller();
         z.node(0);
@@ -507,6 +517,12 @@ final class PlaceEdges {
         e.is("none is left", y.spare(0), 0);
         y.up(0, false);
         e.is("whether it is DOWN or not", y.spare(0), 0);
+        for (int t = 0; t < 24; t++) {
+            SliceSeller z = oneSlice(1, 20, 9);
+            z.span(0, t, t, 0);
+            z.letIn(0);
+            e.is("taken at TICK " + t + " alone", z.spare(0), 11);
+        }
     }
 
     private void spareBeyond() {

@@ -294,6 +294,43 @@ final class SliceEdges {
             dueJustFallRoom(tick);
             dueJustWorkroom(tick);
         }
+        dueFallRoomOfEachLine();
+        for (int tick = 0; tick < 24; tick++) {
+            dueFallRoomAtOneTick(tick);
+        }
+    }
+
+    private void dueFallRoomOfEachLine() {
+        // What LINE 1 holds for the fall of LINE 0 is nothing to LINES 2 and 3, which have less ROOM.
+        SliceSeller x = Nets.nodes(2, 100);
+        for (int i = 0; i < 4; i++) {
+            x.line(0, 1, i < 2 ? 10 : 3, 1 + i, 0);
+        }
+        x.slice(1, 0, 1, 10, 4);
+        x.letIn(0);
+        x.up(1, false);
+        x.slice(1, 0, 1, 3, 4);
+        e.is("WAY 2 and SPARE 3", x.letIn(1), 16);
+        e.is("FALLROOM of LINE 1", x.fallRoom(1, 0), 10);
+        e.is("FALLROOM of LINE 3", x.fallRoom(3, 0), 3);
+    }
+
+    private void dueFallRoomAtOneTick(int tick) {
+        SliceSeller x = Nets.nodes(2, 100);
+        x.line(0, 1, 20, 1, 0);
+        x.line(0, 1, 10, 2, 0);
+        x.slice(1, 0, 1, 6, 2);
+        x.span(0, tick, tick, 0);
+        x.letIn(0);
+        x.slice(1, 0, 1, 5, 2);
+        e.is("6 and 5 fall from LINE 0 at TICK " + tick, x.why(1), 3);
+        x.span(1, tick, tick, 0);
+        e.is("both at that TICK alone", x.why(1), 3);
+        int other = (tick + 1) % 24;
+        x.span(1, other, other, 0);
+        e.is("one behind the other", x.letIn(1), 0);
+        e.is("FALLROOM then", x.fallRoom(1, tick), 6);
+        e.is("and then", x.fallRoom(1, other), 5);
     }
 
     private void dueJustRoom(int tick) {
