@@ -7,7 +7,7 @@ import java.util.LinkedHashMap;
 import java.util.List;
 import java.util.Map;
 
-/** The sentences of DOC.md: those of "Terms", and those of each promise. */
+/** The sentences of DOC.md: those of "What it is", of "Terms", and of each promise. */
 final class Document {
     private static final Path PLACE = Path.of("../shared/DOC.md");
 
@@ -18,7 +18,7 @@ final class Document {
             for (String part : Files.readString(PLACE).split("(?m)^## ")) {
                 String title = part.lines().findFirst().orElse("");
                 String name = title.replaceFirst(":.*", "");
-                if (name.equals("Terms") || name.startsWith("Promise ")) {
+                if (name.equals("What it is") || name.equals("Terms") || name.startsWith("Promise ")) {
                     sections.put(name, sentencesOf(part.substring(title.length())));
                 }
             }

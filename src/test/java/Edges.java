@@ -111,7 +111,7 @@ final class Edges {
                 due.holds(section.getKey() + " is tested: " + s, is || withoutBoundary.contains(s));
             }
         }
-        due.holds("the document has 36 promises and its terms", document.sections().size() == 37);
+        due.holds("the document has what it is, its terms and 36 promises", document.sections().size() == 38);
         due.end();
     }
 }

@@ -1,6 +1,6 @@
 import java.util.function.Supplier;
 
-/** The boundary cases of findings and sheets: the first words and number 5 of the terms, promises 32 to 36. */
+/** The boundary cases of calls as such and of sheets: findings, number 5 of the terms, promises 32 to 36. */
 final class SheetEdges {
     private final Edges e;
 
@@ -9,6 +9,7 @@ final class SheetEdges {
     }
 
     void test() {
+        atMost512Calls();
         termsFindings();
         termsOrderOfFindings();
         termsSets();
@@ -33,6 +34,34 @@ final class SheetEdges {
         readFull();
         toldWhat();
         toldBeyond();
+    }
+
+    private void atMost512Calls() {
+        e.sentence("What it is",
+                "An object is used for at most 512 calls after it has been made; what later calls answer is free");
+        SliceSeller x = new SliceSeller();
+        for (int i = 0; i < 511; i++) {
+            x.told(-1);
+        }
+        e.is("the 512th call, behind refused ones", x.told(5), 511);
+        // All units that 512 calls can bring over the dearest WAY: sums stay what they are.
+        SliceSeller y = Nets.nodes(6, 0);
+        for (int i = 0; i < 5; i++) {
+            y.line(i, i + 1, 50, 1, 9);
+        }
+        y.slice(0, 0, 5, 20, 5);
+        y.letIn(0);
+        int passed = 0;
+        for (int i = 0; i < 80; i++) {
+            for (int k = 0; k < 5; k++) {
+                y.offer(0, k < 4 ? 100 : 80);
+            }
+            passed += y.run(24);
+        }
+        e.is("480 a day for 80 days", passed, 80 * 480);
+        e.is("PAID", y.of(0, 15), 80 * 480 * 45);
+        e.is("EARNED", y.about(4, 8), 80 * 480 * 9);
+        e.is("told(7)", y.told(7), 80 * 480 * 45);
     }
 
     private void termsFindings() {
