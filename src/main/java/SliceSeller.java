@@ -728,12 +728,12 @@ public final class SliceSeller {
             to = b;
             linesThen = net.lines;
             size = 0;
-            extend(net, a, 1 << a, 0, 0);
+            extend(this, net, a, 1 << a, 0, 0);
         }
 
-        private void extend(Net net, int at, int seen, int key, int depth) {
-            if (at == to) {
-                insert(key);
+        private static void extend(Ways ways, Net net, int at, int seen, int key, int depth) {
+            if (at == ways.to) {
+                ways.insert(key);
                 return;
             }
             if (depth >= MOST_HOPS) {
@@ -743,7 +743,7 @@ public final class SliceSeller {
                 Line line = net.lineAt(l);
                 int next = line.otherEnd(at);
                 if (next >= 0 && !has(seen, next)) {
-                    extend(net, next, seen | 1 << next, longer(key, l, line.late), depth + 1);
+                    extend(ways, net, next, seen | 1 << next, longer(key, l, line.late), depth + 1);
                 }
             }
         }

@@ -7,10 +7,12 @@ import com.sun.source.tree.LambdaExpressionTree;
 import com.sun.source.tree.MemberReferenceTree;
 import com.sun.source.tree.MethodInvocationTree;
 import com.sun.source.tree.MethodTree;
+import com.sun.source.tree.NewClassTree;
 import com.sun.source.tree.SynchronizedTree;
 import com.sun.source.tree.ThrowTree;
 import com.sun.source.tree.Tree;
 import com.sun.source.tree.TryTree;
+import com.sun.source.tree.TypeCastTree;
 import com.sun.source.tree.VariableTree;
 import com.sun.source.util.JavacTask;
 import com.sun.source.util.SourcePositions;
@@ -30,6 +32,8 @@ import java.util.Map;
 import java.util.Set;
 import java.util.TreeSet;
 import javax.lang.model.element.Element;
+import javax.lang.model.type.ArrayType;
+import javax.lang.model.type.TypeMirror;
 import javax.tools.JavaCompiler;
 import javax.tools.StandardJavaFileManager;
 import javax.tools.ToolProvider;
@@ -185,13 +189,42 @@ public final class LanguageTest {
             Element called = trees.getElement(new TreePath(getCurrentPath(), tree.getMethodSelect()));
             String owner = called.getEnclosingElement().toString();
             String name = owner + "." + called.getSimpleName();
-            boolean own = owner.equals("SliceSeller") || owner.startsWith("SliceSeller.");
+            boolean own = isOwn(owner);
             boolean madeByCompiler = called.getSimpleName().contentEquals("<init>");
             DUE.holds("rule 4: " + name, own || madeByCompiler || LIBRARY.contains(name));
             if (method != null && !madeByCompiler) {
                 calls.get(method).add(called);
             }
             return super.visitMethodInvocation(tree, none);
+        }
+
+        /** Of rule 3 this class needs numbers, its own classes, and rows of these alone. */
+        @Override public Void visitVariable(VariableTree tree, Void none) {
+            TypeMirror type = trees.getTypeMirror(new TreePath(getCurrentPath(), tree.getType()));
+            TypeMirror inside = type instanceof ArrayType row ? row.getComponentType() : type;
+            DUE.holds("rule 3: type of " + tree.getName() + ": " + type, isNumber(inside) || isOwn(inside.toString()));
+            boolean fixed = tree.getModifiers().getFlags().contains(javax.lang.model.element.Modifier.STATIC);
+            DUE.holds("rule 5: type of " + tree.getName() + ": " + type, !fixed || isNumber(inside));
+            return super.visitVariable(tree, none);
+        }
+
+        private static boolean isNumber(TypeMirror type) {
+            return Set.of("int", "long", "boolean").contains(type.toString());
+        }
+
+        private static boolean isOwn(String type) {
+            return type.equals("SliceSeller") || type.startsWith("SliceSeller.");
+        }
+
+        @Override public Void visitNewClass(NewClassTree tree, Void none) {
+            String type = String.valueOf(trees.getTypeMirror(getCurrentPath()));
+            DUE.holds("rule 4: new " + type, isOwn(type) && tree.getClassBody() == null);
+            return super.visitNewClass(tree, none);
+        }
+
+        @Override public Void visitTypeCast(TypeCastTree tree, Void none) {
+            DUE.holds("rule 6: cast to " + tree.getType(), Set.of("byte", "short").contains(tree.getType().toString()));
+            return super.visitTypeCast(tree, none);
         }
 
         @Override public Void visitImport(ImportTree tree, Void none) {
@@ -247,6 +280,9 @@ public final class LanguageTest {
                 } else {
                     DUE.holds("rule 8: only extend calls itself, not " + next,
                             next.equals(m) && next.getSimpleName().contentEquals("extend"));
+                    DUE.holds("rule 8: what calls itself is private and static: " + next,
+                            next.getModifiers().containsAll(Set.of(javax.lang.model.element.Modifier.PRIVATE,
+                                    javax.lang.model.element.Modifier.STATIC)));
                 }
             }
             open.remove(open.size() - 1);
